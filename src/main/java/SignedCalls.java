@@ -53,8 +53,8 @@ public final class SignedCalls {
     private final WaitingRow row = new WaitingRow();
     private final EventLog log = new EventLog();
     private int priceStep = 1;
-    private int height = 0;
-    private long paidInAll = 0;
+    private int height;
+    private long paidInAll;
 
     public SignedCalls() {
     }
@@ -418,7 +418,7 @@ public final class SignedCalls {
         final int[] nexts = new int[MOST_ACCOUNTS];
         final int[] keys = new int[MOST_ACCOUNTS];
         final int[] thresholds = new int[MOST_ACCOUNTS];
-        int count = 0;
+        int count;
 
         boolean has(int account) {
             return account >= 0 && account < count;
@@ -450,7 +450,7 @@ public final class SignedCalls {
     private static final class Signatures {
         final int[] keys = new int[MOST_SIGNATURES];
         final long[] digests = new long[MOST_SIGNATURES];
-        int count = 0;
+        int count;
 
         boolean has(int signature) {
             return signature >= 0 && signature < count;
@@ -468,16 +468,16 @@ public final class SignedCalls {
     private static final class Call {
         final int[] receivers = new int[MOST_ACTS];
         final long[] amounts = new long[MOST_ACTS];
-        int acts = 0;
-        int owner = 0;
-        int number = 0;
-        int price = 0;
-        int limit = 0;
-        int end = 0;
-        int start = 0;
-        int sponsor = NO_SPONSOR;
-        int ticket = 0;
-        int used = 0;
+        int acts;
+        int owner;
+        int number;
+        int price;
+        int limit;
+        int end;
+        int start;
+        int sponsor;
+        int ticket;
+        int used;
 
         void begin(int itsOwner, int itsNumber, int itsPrice, int itsLimit) {
             owner = itsOwner;
@@ -535,8 +535,8 @@ public final class SignedCalls {
     private static final class Draft {
         final Call call = new Call();
         final int[] signatures = new int[MOST_ADDED];
-        int added = 0;
-        boolean isThere = false;
+        int added;
+        boolean isThere;
 
         void begin(int owner, int number, int price, int limit) {
             call.begin(owner, number, price, limit);
@@ -554,8 +554,8 @@ public final class SignedCalls {
     /** Those that wait, by tickets, in the first places; behind them the objects that are free for later ones. */
     private static final class WaitingRow {
         final Call[] calls = new Call[MOST_WAITING];
-        int count = 0;
-        int ticketsGiven = 0;
+        int count;
+        int ticketsGiven;
 
         WaitingRow() {
             for (int i = 0; i < MOST_WAITING; i++) {
@@ -613,9 +613,9 @@ public final class SignedCalls {
         final int[] tickets = new int[EVENTS_KEPT];
         final int[] whys = new int[EVENTS_KEPT];
         final int[] units = new int[EVENTS_KEPT];
-        int kept = 0;
+        int kept;
         int newest = EVENTS_KEPT - 1;
-        int inAll = 0;
+        int inAll;
 
         void note(int ticket, int why, int itsUnits) {
             newest = newest + 1 < EVENTS_KEPT ? newest + 1 : 0;

@@ -9,6 +9,7 @@ public final class BlockTest {
         theDearestFirst();
         numbersInARow();
         gapsWait();
+        aWholeRowInOneBlock();
         roomIsTheLimitsThenTheUnits();
         theRoomsEdges();
         callsThatEnd();
@@ -39,6 +40,7 @@ public final class BlockTest {
         Due.is("next(1)", x.next(1), 0);
         Due.is("paid()", x.paid(), 60);
         Due.event(x, 0, 0, 0, 20);
+        Due.is("event(1, 0)", x.event(1, 0), BAD);
         Due.told(x, 3, 1, 0, 1, 1, 1);
         Due.is("waiting(0, 0)", x.waiting(0, 0), BAD);
         Due.is("block(40)", x.block(40), 0);
@@ -103,6 +105,22 @@ public final class BlockTest {
         Due.event(x, 1, 2, 0, 10);
         Due.event(x, 0, 1, 0, 10);
         Due.is("next(0)", x.next(0), 3);
+    }
+
+    private static void aWholeRowInOneBlock() {
+        SignedCalls x = Due.withAccounts(10000, 10000);
+        for (int k = 0; k < 24; k++) {
+            Due.is("offer", Due.offered(x, k % 2, k / 2, 24 - k, 10, 0, 0), k);
+        }
+        Due.is("block(240)", x.block(240), 24);
+        Due.told(x, 2, 24, 0, 24, 24, 1);
+        Due.is("next(0)", x.next(0), 12);
+        Due.is("next(1)", x.next(1), 12);
+        Due.event(x, 23, 0, 0, 10);
+        Due.event(x, 0, 23, 0, 10);
+        Due.is("paid()", x.paid(), 3000);
+        Due.is("places are free again", Due.offered(x, 0, 12, 1, 10, 0, 0), 24);
+        Due.waits(x, 0, 24, 0, 12, 1);
     }
 
     private static void roomIsTheLimitsThenTheUnits() {
@@ -354,6 +372,11 @@ public final class BlockTest {
                 Due.is("told(4)", x.told(4), 60);
                 Due.event(x, 59, 0, 3, 0);
                 Due.is("event(60, 0)", x.event(60, 0), BAD);
+            }
+            if (k == 61) {
+                Due.event(x, 0, 60, 3, 0);
+                Due.event(x, 1, 59, 3, 0);
+                Due.event(x, 59, 1, 3, 0);
             }
         }
         Due.is("told(4)", x.told(4), 63);

@@ -20,6 +20,7 @@ public final class OfferTest {
         stepIsAskedAtTheOffer();
         aFullRow();
         aFullRowReplaces();
+        theFirstIsTheLeast();
         waitingRefuses();
         Due.end();
     }
@@ -303,6 +304,23 @@ public final class OfferTest {
         Due.is("not even if the least is dearer", Due.offered(x, 0, 24, 5, 10, 0, 0), -17);
         Due.waits(x, 23, 24, 0, 7, 5);
         Due.is("waiting(6, 0)", x.waiting(6, 0), 7);
+    }
+
+    private static void theFirstIsTheLeast() {
+        SignedCalls x = Due.withAccounts(100000);
+        for (int k = 0; k < 24; k++) {
+            Due.is("offer " + k, Due.offered(x, 0, k, k < 2 ? k : 5, 10, 0, 0), k);
+        }
+        Due.is("as the least", Due.offered(x, 0, 24, 0, 10, 0, 0), -18);
+        Due.is("above the least", Due.offered(x, 0, 24, 1, 10, 0, 0), 24);
+        Due.event(x, 0, 0, 4, 0);
+        Due.waits(x, 0, 1, 0, 1, 1);
+        Due.waits(x, 23, 24, 0, 24, 1);
+        Due.is("above two alike: the later goes", Due.offered(x, 0, 25, 2, 10, 0, 0), 25);
+        Due.event(x, 0, 24, 4, 0);
+        Due.is("above the first", Due.offered(x, 0, 26, 3, 10, 0, 0), 26);
+        Due.event(x, 0, 1, 4, 0);
+        Due.told(x, 1, 28, 24, 27, 3, 0);
     }
 
     private static void waitingRefuses() {
