@@ -26,6 +26,7 @@ public final class OfferEdgesTest {
         ticketsAreForThoseThatWait();
         replaced();
         replacedInAFullRow();
+        replacedFromAnyPlace();
         pushed();
         pushedIsTheGreatestTicketOfAlikeOnes();
         pushedByTheTicketOfTheReplacingOne();
@@ -252,6 +253,16 @@ public final class OfferEdgesTest {
         Run r = new Run("REPLACED; without such a one, if 24 waited, PUSHED").accounts(MOST).row(0, 0, 1, 1, 2).row(1, 0, 2, 23, 5);
         r.offered(24, 0, 24, 6, 10, 0, 0).event(0, 23, 3, 0).told(1, 25, 24, 25, 1, 0).waits(0, 0, 0, 1, 2).waits(23, 24, 0, 24, 6);
         r.offered(25, 0, 1, 3, 10, 0, 0).event(0, 0, 3, 0).told(1, 26, 24, 26, 2, 0).waits(0, 1, 0, 2, 5).waits(23, 25, 0, 1, 3);
+    }
+
+    private static void replacedFromAnyPlace() {
+        for (int place = 0; place < 24; place++) {
+            Run r = new Run("REPLACED, from place " + place + " of the row").accounts(MOST).row(0, 0, 1, 24, 5);
+            r.offered(-17, 0, place + 1, 5, 10, 0, 0).offered(24, 0, place + 1, 6, 10, 0, 0).event(0, place, 3, 0).due(24, "told", 2);
+            for (int i = 0; i < 24; i++) {
+                r.due(i < place ? i : i + 1, "waiting", i, 0);
+            }
+        }
     }
 
     private static void pushed() {
